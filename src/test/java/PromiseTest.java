@@ -93,6 +93,8 @@ public final class PromiseTest {
         Check.due("2 second int below 0", () -> x.token(0, 0, 1, -1), 7);
         Check.due("2 second int does not reach the first", () -> x.token(0, 0, -1, -1), 8);
         Check.due("2 again, between others", () -> x.token(1, 0, 1, 2), 8);
+        Check.due("2 again, in one place with others", () -> x.token(0, 0, 2, 2), 8);
+        Check.due("2 again, in one place with others", () -> x.token(0, 0, -1, -1), 8);
         int[][] wrong = {{-1, 0}, {4, 0}, {0, -1}, {0, 4096}, {Integer.MIN_VALUE, 5}, {5, Integer.MAX_VALUE}};
         for (int[] w : wrong) {
             Check.thrown("2 token(" + w[0] + ", " + w[1] + ")", () -> x.token(w[0], w[1], 1, 2), ARGUMENT);
@@ -241,7 +243,8 @@ public final class PromiseTest {
         Check.due("6 buffer is empty", () -> x.count(2), 0);
         Check.due("6 hand is left alone", () -> x.count(3), 1);
         x.add();
-        x.flush();
+        Check.due("6 the next segment", x::flush, 2);
+        dueSegment("6 has what came after", x, 1, 0, 1, 1, 1);
         x.add();
         x.take(0);
         Check.due("6 segments and buffer", x::pack, 2);
@@ -405,6 +408,12 @@ public final class PromiseTest {
         dueHits("9", x, 0, 1, 100, 0, 1, 4095);
         x.term(1, 1, 0);
         Check.due("9 the next field is not behind", () -> x.follow(2, 0, 1), 0);
+        x.token(3, 0, 3, 0);
+        x.token(3, 1, 4, 0);
+        x.add();
+        x.drop();
+        x.term(8, 3, 0);
+        Check.due("9 in the last field", () -> x.follow(4, 0, 1), 1);
         for (int i = 2; i < 8; i++) {
             x.term(15, 1, 0);
         }
@@ -474,6 +483,9 @@ public final class PromiseTest {
         x.term(4, 1, 0);
         x.term(8, 2, 0);
         Check.due("10 the next field is not near", () -> x.join(3), 0);
+        x.term(8, 2, 0);
+        x.term(4, 2, 0);
+        Check.due("10 nor the one before", () -> x.join(3), 0);
     }
 
     private static void joinWrong() {
