@@ -49,23 +49,6 @@ public final class PromiseTest {
         x.flush();
     }
 
-    private static void dueSegment(String what, SegmentIndex x, int segment, int... want) {
-        for (int k = 0; k < want.length; k++) {
-            int asked = k;
-            Check.due(what + " segment(" + segment + ", " + k + ")", () -> x.segment(segment, asked), want[k]);
-        }
-    }
-
-    /** The uppermost set is just these hits: document, field, place, document, ... */
-    private static void dueHits(String what, SegmentIndex x, int... want) {
-        Check.due(what + " count(6)", () -> x.count(6), want.length / 3);
-        for (int i = 0; i < want.length; i++) {
-            int at = i;
-            Check.due(what + " hit(" + i / 3 + ", " + i % 3 + ")", () -> x.hit(at / 3, at % 3), want[i]);
-        }
-        Check.due(what + " hit past the last", () -> x.hit(want.length / 3, 0), SegmentIndex.NONE);
-    }
-
     private static void newObject() {
         Check.due("1 NONE", () -> SegmentIndex.NONE, -1);
         SegmentIndex x = new SegmentIndex();
@@ -73,7 +56,7 @@ public final class PromiseTest {
             int asked = what;
             Check.due("1 count(" + what + ")", () -> x.count(asked), 0);
         }
-        dueHits("1", x);
+        Check.dueHits("1", x);
         Check.due("1 segment", () -> x.segment(0, 0), -1);
         SegmentIndex other = new SegmentIndex();
         addWord(other, 1);
@@ -146,7 +129,7 @@ public final class PromiseTest {
         Check.due("3 the twelfth", x::add, 12);
         Check.due("3 buffer is empty", () -> x.count(2), 0);
         Check.due("3 a segment", () -> x.count(4), 1);
-        dueSegment("3", x, 0, 0, 12, 6, 11, -1);
+        Check.dueSegment("3", x, 0, 0, 12, 6, 11, -1);
     }
 
     private static void take() {
@@ -162,7 +145,7 @@ public final class PromiseTest {
         Check.due("4 is not in a segment", () -> x.count(7), 0);
         Check.silent("4 in a segment", () -> x.take(0));
         Check.due("4 stays there", () -> x.count(7), 1);
-        dueSegment("4", x, 0, 0, 1, 1, 1);
+        Check.dueSegment("4", x, 0, 0, 1, 1, 1);
         Check.due("4 is found no more", () -> x.term(15, 1, 0), 0);
         Check.due("4 none is there", () -> x.count(0), 0);
         Check.due("4 two came", () -> x.count(1), 2);
@@ -201,10 +184,10 @@ public final class PromiseTest {
             addAt(x, 1, i, i % 3);
             Check.due("5 flush " + i, x::flush, want[i]);
         }
-        dueSegment("5", x, 0, 2, 16, 3, 16);
-        dueSegment("5", x, 1, 0, 1, 1, 1);
+        Check.dueSegment("5", x, 0, 2, 16, 3, 16);
+        Check.dueSegment("5", x, 1, 0, 1, 1, 1);
         Check.due("5 found in all segments", () -> x.term(2, 1, 0), 6);
-        dueHits("5", x, 1, 1, 1, 4, 1, 4, 7, 1, 7, 10, 1, 10, 13, 1, 13, 16, 1, 16);
+        Check.dueHits("5", x, 1, 1, 1, 4, 1, 4, 7, 1, 7, 10, 1, 10, 13, 1, 13, 16, 1, 16);
     }
 
     private static void flushAfterTakes() {
@@ -217,17 +200,17 @@ public final class PromiseTest {
         addWord(x, 1);
         Check.due("5 two taken", () -> x.count(7), 2);
         Check.due("5 four become one", x::flush, 1);
-        dueSegment("5 without the taken", x, 0, 1, 2, 2, 2);
+        Check.dueSegment("5 without the taken", x, 0, 1, 2, 2, 2);
         Check.due("5 none taken is left", () -> x.count(7), 0);
         x.take(1);
         x.take(3);
-        dueSegment("5 all taken, but unchanged", x, 0, 1, 2, 2, 2);
+        Check.dueSegment("5 all taken, but unchanged", x, 0, 1, 2, 2, 2);
         for (int i = 0; i < 3; i++) {
             flushOne(x, 4);
         }
         flushOne(x, 5);
         Check.due("5 the older one is not put in", () -> x.count(4) * 10 + x.count(7), 22);
-        dueSegment("5", x, 1, 1, 4, 2, 4);
+        Check.dueSegment("5", x, 1, 1, 4, 2, 4);
     }
 
     private static void pack() {
@@ -239,17 +222,17 @@ public final class PromiseTest {
         x.add();
         x.token(3, 3, 3, 3);
         Check.due("6 buffer alone", x::pack, 1);
-        dueSegment("6", x, 0, 0, 1, 1, 2);
+        Check.dueSegment("6", x, 0, 0, 1, 1, 2);
         Check.due("6 buffer is empty", () -> x.count(2), 0);
         Check.due("6 hand is left alone", () -> x.count(3), 1);
         x.add();
         Check.due("6 the next segment", x::flush, 2);
-        dueSegment("6 has what came after", x, 1, 0, 1, 1, 1);
+        Check.dueSegment("6 has what came after", x, 1, 0, 1, 1, 1);
         x.add();
         x.take(0);
         Check.due("6 segments and buffer", x::pack, 2);
         Check.due("6 one segment", () -> x.count(4), 1);
-        dueSegment("6", x, 0, 0, 2, 1, 1);
+        Check.dueSegment("6", x, 0, 0, 2, 1, 1);
         Check.due("6 nothing to do", x::pack, 2);
         Check.thrown("6 the taken one is gone", () -> taken(x, 0), INDEX);
         Check.due("6 the others are found", () -> x.begins(15, 0, 0, 0), 1);
@@ -267,22 +250,22 @@ public final class PromiseTest {
         x.take(0);
         addWord(x, 9);
         Check.due("6 five are left", x::pack, 5);
-        dueSegment("6 the highest level", x, 0, 1, 5, 5, 5);
+        Check.dueSegment("6 the highest level", x, 0, 1, 5, 5, 5);
         for (int document = 1; document < 6; document++) {
             x.take(document);
         }
         addWord(x, 7);
         Check.due("6 the newest alone", x::pack, 1);
-        dueSegment("6 of the level that there was", x, 0, 1, 1, 1, 1);
+        Check.dueSegment("6 of the level that there was", x, 0, 1, 1, 1, 1);
         x.take(6);
         x.pack();
         flushOne(x, 8);
-        dueSegment("6 from the bottom again", x, 0, 0, 1, 1, 1);
+        Check.dueSegment("6 from the bottom again", x, 0, 0, 1, 1, 1);
         x.pack();
         for (int i = 0; i < 3; i++) {
             flushOne(x, 8);
         }
-        dueSegment("6 a packed one is put together like others", x, 0, 1, 4, 1, 4);
+        Check.dueSegment("6 a packed one is put together like others", x, 0, 1, 4, 1, 4);
     }
 
     private static void term() {
@@ -297,11 +280,11 @@ public final class PromiseTest {
         x.token(2, 0, 7, -7);
         x.add();
         Check.due("7 all fields", () -> x.term(15, 7, -7), 6);
-        dueHits("7", x, 0, 0, 2, 0, 0, 9, 0, 1, 8, 0, 2, 7, 0, 3, 6, 1, 2, 0);
+        Check.dueHits("7", x, 0, 0, 2, 0, 0, 9, 0, 1, 8, 0, 2, 7, 0, 3, 6, 1, 2, 0);
         Check.due("7 one field", () -> x.term(4, 7, -7), 2);
-        dueHits("7", x, 0, 2, 7, 1, 2, 0);
+        Check.dueHits("7", x, 0, 2, 7, 1, 2, 0);
         Check.due("7 two fields", () -> x.term(9, 7, -7), 3);
-        dueHits("7", x, 0, 0, 2, 0, 0, 9, 0, 3, 6);
+        Check.dueHits("7", x, 0, 0, 2, 0, 0, 9, 0, 3, 6);
         Check.due("7 no field", () -> x.term(0, 7, -7), 0);
         Check.due("7 other bits", () -> x.term(-16, 7, -7), 0);
         Check.due("7 other bits beside", () -> x.term(Integer.MIN_VALUE + 16 + 2, 7, -7), 1);
@@ -329,7 +312,7 @@ public final class PromiseTest {
         }
         Check.due("8 what is behind counts for nothing", () -> x.begins(2, 0x0102FFFF, -1, 2), 7);
         Check.due("8 highest byte above 127", () -> x.begins(2, 0x81FFFFFF, 3, 1), 1);
-        dueHits("8", x, 0, 1, 8);
+        Check.dueHits("8", x, 0, 1, 8);
         Check.due("8 fields", () -> x.begins(-3, 0, 0, 0), 0);
         for (int n : new int[] {-1, 9, 64, Integer.MIN_VALUE, Integer.MAX_VALUE}) {
             Check.thrown("8 n = " + n, () -> x.begins(15, 0, 0, n), ARGUMENT);
@@ -351,9 +334,9 @@ public final class PromiseTest {
         x.token(0, 5, 1, 3);
         x.add();
         Check.due("8 terms in one place are one hit", () -> x.begins(1, 1, 0, 4), 2);
-        dueHits("8", x, 0, 0, 4, 0, 0, 5);
+        Check.dueHits("8", x, 0, 0, 4, 0, 0, 5);
         x.flush();
-        dueSegment("8", x, 0, 0, 1, 4, 4);
+        Check.dueSegment("8", x, 0, 0, 1, 4, 4);
     }
 
     private static void follow() {
@@ -377,16 +360,16 @@ public final class PromiseTest {
         for (int n : new int[] {0, -1, 101, Integer.MIN_VALUE, Integer.MAX_VALUE}) {
             Check.thrown("9 n = " + n, () -> x.follow(2, 0, n), ARGUMENT);
         }
-        dueHits("9 wrong ones change nothing", x, 0, 0, 10, 2, 2, 20, 2, 2, 21);
+        Check.dueHits("9 wrong ones change nothing", x, 0, 0, 10, 2, 2, 20, 2, 2, 21);
         Check.due("9 one behind", () -> x.follow(2, 0, 1), 3);
-        dueHits("9", x, 0, 0, 11, 2, 2, 21, 2, 2, 22);
+        Check.dueHits("9", x, 0, 0, 11, 2, 2, 21, 2, 2, 22);
         Check.due("9 and on from there", () -> x.follow(2, 0, 1), 2);
-        dueHits("9", x, 0, 0, 12, 2, 2, 22);
+        Check.dueHits("9", x, 0, 0, 12, 2, 2, 22);
         Check.due("9 in the uppermost set's place", () -> x.count(5), 1);
         x.drop();
         x.term(1, 1, 0);
         Check.due("9 two behind", () -> x.follow(2, 0, 2), 1);
-        dueHits("9", x, 0, 0, 12);
+        Check.dueHits("9", x, 0, 0, 12);
         x.term(15, 1, 0);
         x.take(0);
         Check.due("9 a taken document is found no more", () -> x.follow(2, 0, 1), 2);
@@ -405,7 +388,7 @@ public final class PromiseTest {
         x.add();
         x.term(15, 1, 0);
         Check.due("9 a hundred behind", () -> x.follow(2, 0, 100), 2);
-        dueHits("9", x, 0, 1, 100, 0, 1, 4095);
+        Check.dueHits("9", x, 0, 1, 100, 0, 1, 4095);
         x.term(1, 1, 0);
         Check.due("9 the next field is not behind", () -> x.follow(2, 0, 1), 0);
         x.token(3, 0, 3, 0);
@@ -442,17 +425,17 @@ public final class PromiseTest {
     private static void join() {
         SegmentIndex both = twoWords();
         Check.due("10 how 0", () -> both.join(0), 4);
-        dueHits("10 how 0", both, 1, 0, 9, 1, 1, 6, 1, 3, 9, 2, 2, 7);
+        Check.dueHits("10 how 0", both, 1, 0, 9, 1, 1, 6, 1, 3, 9, 2, 2, 7);
         Check.due("10 one set", () -> both.count(5), 1);
         SegmentIndex all = twoWords();
         Check.due("10 how 1", () -> all.join(1), 6);
-        dueHits("10 how 1", all, 0, 0, 5, 1, 0, 9, 1, 1, 6, 1, 3, 9, 2, 2, 7, 3, 0, 5);
+        Check.dueHits("10 how 1", all, 0, 0, 5, 1, 0, 9, 1, 1, 6, 1, 3, 9, 2, 2, 7, 3, 0, 5);
         SegmentIndex less = twoWords();
         Check.due("10 how 2", () -> less.join(2), 1);
-        dueHits("10 how 2", less, 0, 0, 5);
+        Check.dueHits("10 how 2", less, 0, 0, 5);
         SegmentIndex near = twoWords();
         Check.due("10 how 3", () -> near.join(3), 1);
-        dueHits("10 how 3", near, 2, 2, 7);
+        Check.dueHits("10 how 3", near, 2, 2, 7);
         SegmentIndex empty = twoWords();
         empty.term(15, 9, 9);
         Check.due("10 without an empty set", () -> empty.join(2), 4);
@@ -479,7 +462,7 @@ public final class PromiseTest {
         x.term(15, 1, 0);
         x.term(15, 2, 0);
         Check.due("10 near", () -> x.join(3), 5);
-        dueHits("10 near", x, 0, 1, 90, 0, 1, 100, 0, 1, 110, 0, 2, 4095, 0, 3, 0);
+        Check.dueHits("10 near", x, 0, 1, 90, 0, 1, 100, 0, 1, 110, 0, 2, 4095, 0, 3, 0);
         x.term(4, 1, 0);
         x.term(8, 2, 0);
         Check.due("10 the next field is not near", () -> x.join(3), 0);
@@ -504,7 +487,7 @@ public final class PromiseTest {
     private static void drop() {
         SegmentIndex x = twoWords();
         Check.due("11 one is left", x::drop, 1);
-        dueHits("11", x, 0, 0, 5, 1, 1, 6, 2, 2, 7);
+        Check.dueHits("11", x, 0, 0, 5, 1, 1, 6, 2, 2, 7);
         Check.due("11 none is left", x::drop, 0);
         Check.thrown("11 none", x::drop, STATE);
         Check.due("11 still none", () -> x.count(5) + x.count(6) + x.documents(), 0);
@@ -516,7 +499,7 @@ public final class PromiseTest {
         x.add();
         addAt(x, 3, 4095, 1);
         x.term(15, 1, 0);
-        dueHits("12", x, 1, 3, 4095);
+        Check.dueHits("12", x, 1, 3, 4095);
         for (int k : new int[] {-1, 1, 2, 511, 512, 513, Integer.MIN_VALUE, Integer.MAX_VALUE}) {
             Check.due("12 hit(" + k + ", 0)", () -> x.hit(k, 0), -1);
         }
@@ -577,21 +560,21 @@ public final class PromiseTest {
         x.token(0, 0, 1, 1);
         x.add();
         x.add();
-        dueSegment("15 the buffer is none", x, 0, -1, -1, -1, -1);
+        Check.dueSegment("15 the buffer is none", x, 0, -1, -1, -1, -1);
         x.flush();
         flushOne(x, 5);
-        dueSegment("15 the oldest first", x, 0, 0, 3, 3, 5, -1);
-        dueSegment("15", x, 1, 0, 1, 1, 1, -1);
+        Check.dueSegment("15 the oldest first", x, 0, 0, 3, 3, 5, -1);
+        Check.dueSegment("15", x, 1, 0, 1, 1, 1, -1);
         x.take(0);
-        dueSegment("15 taken ones too", x, 0, 0, 3, 3, 5, -1);
+        Check.dueSegment("15 taken ones too", x, 0, 0, 3, 3, 5, -1);
         for (int wrong : new int[] {-1, 2, 10, Integer.MIN_VALUE, Integer.MAX_VALUE}) {
-            dueSegment("15", x, wrong, -1, -1, -1, -1);
+            Check.dueSegment("15", x, wrong, -1, -1, -1, -1);
         }
         for (int what : new int[] {-1, 4, Integer.MIN_VALUE, Integer.MAX_VALUE}) {
             Check.due("15 segment(0, " + what + ")", () -> x.segment(0, what), -1);
         }
         x.pack();
-        dueSegment("15 without the taken one", x, 0, 0, 3, 3, 3, -1);
+        Check.dueSegment("15 without the taken one", x, 0, 0, 3, 3, 3, -1);
     }
 
     private static void count() {
@@ -628,8 +611,8 @@ public final class PromiseTest {
         x.follow(2, 0, 1);
         Check.due("7 to 11 made of what is there", () -> x.count(6), 0);
         x.drop();
-        dueHits("7 to 11 the upper one", x, 1, 0, 9, 1, 3, 9, 2, 2, 7, 3, 0, 5);
+        Check.dueHits("7 to 11 the upper one", x, 1, 0, 9, 1, 3, 9, 2, 2, 7, 3, 0, 5);
         x.drop();
-        dueHits("7 to 11 the lower one", x, 0, 0, 5, 1, 1, 6, 2, 2, 7);
+        Check.dueHits("7 to 11 the lower one", x, 0, 0, 5, 1, 1, 6, 2, 2, 7);
     }
 }
