@@ -114,6 +114,51 @@ public final class Promise10JoinTest {
         joined(1, 1, 2);
     }
 
+    /** One document with word 1 in the midst of it and word 2 at this spot alone: it is in both. */
+    private static void inBothBySpot(int field, int place) {
+        SegmentIndex x = new SegmentIndex();
+        x.token(1, 50, 1, 0);
+        x.token(field, place, 2, 0);
+        x.add();
+        x.term(15, 1, 0);
+        x.term(15, 2, 0);
+        Check.due("how 0", () -> x.join(0), 2);
+        x.term(15, 1, 0);
+        x.term(15, 2, 0);
+        Check.due("how 2", () -> x.join(2), 0);
+        x.term(15, 2, 0);
+        x.term(15, 1, 0);
+        Check.due("how 2, the other way", () -> x.join(2), 0);
+    }
+
+    @Case("documents that are in both")
+    static void aDocumentIsInASetByItsFirstPlaceAlone() {
+        inBothBySpot(0, 0);
+    }
+
+    @Case("documents that are in both")
+    static void aDocumentIsInASetByItsLastPlaceAlone() {
+        inBothBySpot(3, 4095);
+    }
+
+    @Case("documents that are in both, documents that are not in y")
+    static void neighboursThatMeetInTheLastAndTheFirstPlaceAreTwo() {
+        SegmentIndex x = new SegmentIndex();
+        Trial.come(x, 3, 4095, 1);
+        Trial.come(x, 0, 0, 2);
+        x.term(15, 1, 0);
+        x.term(15, 2, 0);
+        Check.due("how 0", () -> x.join(0), 0);
+        x.term(15, 1, 0);
+        x.term(15, 2, 0);
+        Check.due("how 2", () -> x.join(2), 1);
+        Check.dueHits("the lower one's", x, 0, 3, 4095);
+        x.term(15, 2, 0);
+        x.term(15, 1, 0);
+        Check.due("how 2, the other way", () -> x.join(2), 1);
+        Check.dueHits("the lower one's", x, 1, 0, 0);
+    }
+
     @Case("3 those of y")
     static void howThreeKeepsHitsOfTheUpperAlone() {
         SegmentIndex x = new SegmentIndex();

@@ -143,8 +143,8 @@ public final class Promise12HitTest {
         none(SOME, -1, -1);
     }
 
-    @Case("of a full document the last HIT")
-    static void ofTwelveTimesTenHitsTheLast() {
+    @Case("Of the k-th HIT of the uppermost SET")
+    static void theLastOf120() {
         Trial.Steps steps = x -> {
             Trial.holdTokens(x, 120);
             x.add();

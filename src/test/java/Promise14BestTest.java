@@ -94,7 +94,7 @@ public final class Promise14BestTest {
     }
 
     @Case("by how many HITS it has there")
-    static void only120HitsAreMoreThan119() {
+    static void a120thHitIsOneMore() {
         SegmentIndex x = new SegmentIndex();
         Trial.holdTokens(x, 119);
         x.add();
@@ -131,5 +131,17 @@ public final class Promise14BestTest {
             Check.due("best(" + k + ")", () -> x.best(asked), k);
         }
         Check.due("best(100)", () -> x.best(100), Trial.NONE);
+    }
+
+    // It needs more than the 512 calls that the document speaks of: 600 documents are 600 calls.
+    @Case("DOCUMENTS are numbered from 0 on as they come, at most 600")
+    static void theGreatestNumberOfAll() {
+        SegmentIndex x = Trial.after(y -> Trial.comeTimes(y, 1, 1));
+        Trial.comeEmpty(x, 598);
+        Trial.holdTokens(x, 2);
+        x.add();
+        x.term(15, 1, 0);
+        Check.due("best(0)", () -> x.best(0), 599);
+        Check.due("best(1)", () -> x.best(1), 0);
     }
 }

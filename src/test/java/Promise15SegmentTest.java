@@ -129,7 +129,7 @@ public final class Promise15SegmentTest {
             x.take(4);
             x.take(5);
         };
-        Trial.asked(steps, x -> x.segment(0, 1), 2 + 2);
+        Trial.asked(steps, x -> x.segment(0, 1), 4);
         Trial.asked(steps, x -> x.segment(1, 1), 2);
     }
 
