@@ -42,6 +42,10 @@ public final class FormTest {
         publicFace();
         noOtherMember();
         classesInside();
+        sizes(SegmentIndex.class);
+        for (Class<?> inside : SegmentIndex.class.getDeclaredClasses()) {
+            sizes(inside);
+        }
         source(Files.readString(SOURCE));
         Check.end();
     }
@@ -96,6 +100,24 @@ public final class FormTest {
                 boolean borne = FACE.stream().anyMatch(line -> line.contains(" " + m.getName() + "("));
                 Check.compare(c.getSimpleName() + "." + m.getName() + " bears a name of the face", borne + "", "false");
             }
+        }
+    }
+
+    /** Rule 5, what static fields may be, and rule 11, how many parameters and fields there may be. */
+    private static void sizes(Class<?> c) {
+        int own = 0;
+        for (Field f : c.getDeclaredFields()) {
+            if (Modifier.isStatic(f.getModifiers())) {
+                boolean plain = f.getType() == int.class || f.getType() == long.class;
+                Check.compare("static " + c.getSimpleName() + "." + f.getName() + " is a number", plain + "", "true");
+            } else {
+                own++;
+            }
+        }
+        Check.compare(c.getSimpleName() + " has at most twenty fields", (own <= 20) + "", "true");
+        for (Method m : c.getDeclaredMethods()) {
+            boolean few = m.getParameterCount() <= 7;
+            Check.compare(c.getSimpleName() + "." + m.getName() + " takes at most seven", few + "", "true");
         }
     }
 
